@@ -830,7 +830,8 @@ public final class DoorAcademy {
             if (!hasDoor(door)) {
                 return BAD_INDEX;
             }
-            if (entryOf(door) != NONE) {
+            // A full register holds every door; the test keeps the index below in the row's bounds.
+            if (entryOf(door) != NONE || entries >= DOORS) {
                 return BAD_STATE;
             }
             if (!deservesDegree(door)) {
@@ -1180,8 +1181,8 @@ public final class DoorAcademy {
 
         private static final int KINDS = 10;
         private static final int LONGEST_TEXT = 60;
+        // With its semicolon. One row more than fits, as a full text may end with a semicolon.
         private static final int SHORTEST_COMMAND = 5;
-        // One row more than fits: a command may be begun behind the last semicolon of a full text.
         private static final int MOST_COMMANDS = LONGEST_TEXT / SHORTEST_COMMAND + 1;
         private static final int MOST_OPERANDS = 4;
 
@@ -1214,13 +1215,14 @@ public final class DoorAcademy {
         /** Reads the text; the error position, or NONE if the text is a program. */
         int parse() {
             int at = 0;
-            for (commands = 0; commands < MOST_COMMANDS; commands++) {
-                int end = readCommand(at);
+            commands = 0;
+            for (int row = 0; row < MOST_COMMANDS; row++) {
+                int end = readCommand(row, at);
                 if (end < 0) {
                     return errorOf(end);
                 }
+                commands = row + 1;
                 if (end >= length) {
-                    commands++;
                     return NONE;
                 }
                 if (text[end] != ';') {
@@ -1231,13 +1233,13 @@ public final class DoorAcademy {
             return at;
         }
 
-        /** Reads a command; where it ends, or its error. */
-        private int readCommand(int start) {
+        /** Reads a command into the row; where it ends, or its error. */
+        private int readCommand(int row, int start) {
             int farthest = start;
             for (int kind = 0; kind < KINDS; kind++) {
-                int end = match(shapeOf(kind), start);
+                int end = match(shapeOf(kind), row, start);
                 if (end >= 0) {
-                    kinds[commands] = kind;
+                    kinds[row] = kind;
                     return end;
                 }
                 farthest = Math.max(farthest, errorOf(end));
@@ -1245,8 +1247,8 @@ public final class DoorAcademy {
             return errorAt(farthest);
         }
 
-        /** Reads a command of one shape into the row of operands; where it ends, or its error. */
-        private int match(String shape, int start) {
+        /** Reads a command of one shape into the row; where it ends, or its error. */
+        private int match(String shape, int row, int start) {
             int at = start;
             int operand = 0;
             for (int step = 0; step < shape.length(); step++) {
@@ -1264,7 +1266,7 @@ public final class DoorAcademy {
                     at++;
                 }
                 if (isOperand(wanted) && operand < MOST_OPERANDS) {
-                    operands[commands][operand] = value;
+                    operands[row][operand] = value;
                     operand++;
                 }
             }

@@ -23,6 +23,10 @@ public final class ComparisonTest {
     private static final String[] WORDS = {"door ", "examiner ", "conflict ", "assign ", "plan", "grade ",
         "threshold ", "appeal ", "award ", "revoke "};
 
+    private static final String[] TEXTS = {"door a 0;door f 5", "examiner b 5 1 2", "examiner c 63 4 9",
+        "conflict 0 1", "assign 2 3;plan", "plan;award 1", "grade 0 0 5", "grade 5 7 20", "threshold 5",
+        "threshold 12;appeal 0", "award 2", "revoke 1;revoke 2"};
+
     private final Checks checks;
     private final Map<String, Method> facesOfProgram = new TreeMap<>();
     private final Map<String, Method> facesOfReference = new TreeMap<>();
@@ -67,6 +71,9 @@ public final class ComparisonTest {
         ComparisonTest test = new ComparisonTest(checks);
         for (int run = 0; run < RUNS; run++) {
             test.compareOneRun(run);
+        }
+        for (String text : TEXTS) {
+            test.compareSpoiltTexts(text);
         }
         if (args.length > 0) {
             test.outcomes.forEach((what, times) -> System.out.println(times + " " + what));
@@ -213,6 +220,33 @@ public final class ComparisonTest {
         } catch (IllegalAccessException refused) {
             throw new Error(refused);
         }
+    }
+
+    /** Every character of the text in turn becomes every other one, and the text ends behind it or goes on. */
+    private void compareSpoiltTexts(String text) {
+        for (int place = 0; place < text.length(); place++) {
+            for (int character = 0; character < 260; character++) {
+                String begun = text.substring(0, place) + (char) character;
+                compareText(begun);
+                compareText(begun + text.substring(place + 1));
+                compareText(begun + text.substring(place));
+            }
+        }
+    }
+
+    private void compareText(String text) {
+        program = new DoorAcademy();
+        reference = new ReferenceAcademy();
+        history = new ArrayList<>();
+        callsLeft = CALLS;
+        for (int index = 0; index < text.length(); index++) {
+            program.append(text.charAt(index));
+            reference.append(text.charAt(index));
+            history.add("append " + (int) text.charAt(index));
+        }
+        make("run");
+        make("errorPosition");
+        make("failedCommand");
     }
 
     private void writeLine() {

@@ -1025,13 +1025,15 @@ public final class PromisesTest {
         academy.declareConflict(5, 2);
         academy.undo();
         due("52: declareConflict", academy.isNeutral(5, 2), true);
+        academy.setThreshold(11);
         academy.carryOutPlan();
         academy.undo();
         due("52: carryOutPlan", academy.assignments(), 0);
+        due("52: carryOutPlan alone", academy.threshold(), 11);
         gradeBoth(academy, 0, 4, 4);
         academy.undo();
         due("52: grade", academy.gradesOf(0), 1);
-        academy.grade(1, 0, 4);
+        academy.grade(1, 0, 5);
         academy.appeal(0);
         academy.undo();
         due("52: appeal", academy.wasGranted(0), false);
@@ -1082,5 +1084,39 @@ public final class PromisesTest {
         academy.setThreshold(6);
         due("54: calls after it can be undone", academy.undo(), 0);
         due("54: and are", academy.threshold(), 5);
+        restoredRows();
+    }
+
+    private void restoredRows() {
+        DoorAcademy academy = new DoorAcademy();
+        academy.addDoor('a', 1);
+        academy.addExaminer('b', 6, 2, 7);
+        academy.save();
+        academy.undo();
+        academy.undo();
+        academy.addExaminer('d', 63, 4, 0);
+        academy.addDoor('c', 4);
+        academy.declareConflict(0, 0);
+        academy.restore();
+        due("54: the door as it was saved", line(academy, academy.writeDoor(0)), "a1");
+        due("54: the examiner as it was saved", line(academy, academy.writeExaminer(0)), "b0/2#12+7");
+        due("54: the conflicts as they were saved", academy.isNeutral(0, 0), true);
+        restoredRegister();
+    }
+
+    private void restoredRegister() {
+        DoorAcademy academy = wide(3, "ab", "00");
+        gradeBoth(academy, 1, 12, 12);
+        academy.award(1);
+        academy.revoke(1);
+        academy.save();
+        academy.undo();
+        academy.undo();
+        gradeBoth(academy, 2, 12, 12);
+        academy.award(2);
+        academy.restore();
+        due("54: the register as it was saved", academy.doorOf(1), 1);
+        due("54: the revocations as they were saved", academy.isRevoked(1), true);
+        due("54: the grades as they were saved", academy.gradesOf(2), 0);
     }
 }
